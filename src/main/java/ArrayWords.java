@@ -65,6 +65,7 @@ public final class ArrayWords {
     private static final int LEVELS = MADE + 1;
     private static final int MOST_LEVELS = MOST_TOKENS + 2;
     private static final int HOLDERS = LEVELS + MOST_LEVELS;
+    private static final int NUMBER_PLACES = HOLDERS * MOST_NUMBERS;
 
     private static final int NOT_WAITING = -1;
 
@@ -75,7 +76,7 @@ public final class ArrayWords {
     private final int[] ranks = new int[HOLDERS];
     private final int[] rows = new int[HOLDERS];
     private final int[] columns = new int[HOLDERS];
-    private final int[] numbers = new int[HOLDERS * MOST_NUMBERS];
+    private final int[] numbers = new int[NUMBER_PLACES];
     private final boolean[] given = new boolean[HOLDERS];
 
     // Level n is inside n brackets: holder LEVELS + n has its right array, the next holder its left one.

@@ -82,6 +82,7 @@ final class Check {
 
     static void gives(String text, String want) {
         gives(new ArrayWords(), text, want);
+        gives(used(), text, want);
     }
 
     static void fails(ArrayWords x, String text, int want) {
@@ -92,6 +93,18 @@ final class Check {
 
     static void fails(String text, int want) {
         fails(new ArrayWords(), text, want);
+        fails(used(), text, want);
+    }
+
+    /** An object without names whose earlier runs have left numbers wherever a run may hold them. */
+    static ArrayWords used() {
+        ArrayWords x = new ArrayWords();
+        run(x, "a becomes b becomes c becomes d becomes e becomes f becomes - 6 6 shape 7");
+        run(x, "a + ( b + ( c + ( d + ( e + ( f + a ) + b ) + c ) + d ) + e ) + f");
+        for (int n = 0; n < 6; n++) {
+            x.forget(n);
+        }
+        return x;
     }
 
     /** An object whose name n has number n of these alone. */

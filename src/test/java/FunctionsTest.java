@@ -55,6 +55,9 @@ public final class FunctionsTest {
         Check.gives(x, "f becomes - 1", "[] -1");
         Check.gives(x, "f", "[] -1");
         Check.gives(x, "( f becomes 5 ) + f", "[] 4");
+        Check.gives(x, "f", "[] 5");
+        Check.gives(x, "2 * ( e becomes 1 + 6 7 ) + 1", "[2] 16 18");
+        Check.gives(x, "e", "[2] 7 8");
         Check.gives(x, "f + f becomes 4", "[] 8");
         Check.due("the same text run again", x.run(), 0);
         Check.due("its result", Check.result(x), "[] 8");
@@ -191,6 +194,7 @@ public final class FunctionsTest {
         Check.gives("- \\ 1 shape 7", "[1] 7");
         Check.gives("- \\ 0 shape 7", "[0]");
         Check.gives("- \\ 2 3 shape 9 4 2 1 2 5", "[2 3] 9 5 7 1 -1 4");
+        Check.gives("- \\ 3 2 shape 9 4 2 1 2 5", "[3 2] 9 5 2 1 2 -3");
         Check.gives("- \\ 0 3 shape 1", "[0 3]");
         Check.gives("- \\ 3 0 shape 1", "[3 0]");
         Check.fails("1 + \\ 2", VALENCE);
@@ -329,6 +333,7 @@ public final class FunctionsTest {
         Check.gives("back 1 2 3 4", "[4] 4 3 2 1");
         Check.gives("back 0 shape 1", "[0]");
         Check.gives("back 2 3 shape count 6", "[2 3] 2 1 0 5 4 3");
+        Check.gives("back 3 2 shape count 6", "[3 2] 1 0 3 2 5 4");
         Check.gives("back 3 0 shape 1", "[3 0]");
         Check.gives("back 0 3 shape 1", "[0 3]");
         Check.gives("0 back 1 2 3", "[3] 1 2 3");
@@ -337,6 +342,7 @@ public final class FunctionsTest {
         Check.gives("( - 1 ) back 1 2 3", "[3] 3 1 2");
         Check.gives("( - 7 ) back 1 2 3", "[3] 3 1 2");
         Check.gives("1 back 2 3 shape count 6", "[2 3] 1 2 0 4 5 3");
+        Check.gives("1 back 3 2 shape count 6", "[3 2] 1 0 3 2 5 4");
         Check.gives("3 back 5", "[] 5");
         Check.gives("3 back 0 shape 5", "[0]");
         Check.gives("3 back 2 0 shape 5", "[2 0]");

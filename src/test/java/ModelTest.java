@@ -10,10 +10,13 @@ public final class ModelTest {
     private static long state = 20261115L;
     private static final int[] seen = new int[20];
 
-    private ArrayWords x = new ArrayWords();
-    private Model model = new Model();
+    private final ArrayWords x = new ArrayWords();
+    private final Model model = new Model();
 
     public static void main(String[] args) {
+        for (int length = 0; length <= 5; length++) {
+            everyText(length);
+        }
         for (int i = 0; i < OBJECTS; i++) {
             new ModelTest().calls();
         }
@@ -22,6 +25,26 @@ public final class ModelTest {
             Check.due("often enough seen: " + code, seen[code < 0 ? -code : code] > 500, true);
         }
         Check.end();
+    }
+
+    /** Reads and runs every text of this length over one token of each kind. */
+    private static void everyText(int length) {
+        int[] kinds = {3, 10, 21, 33, 40, 41, 42, 43, 50, 51, 52};
+        int count = 1;
+        for (int k = 0; k < length; k++) {
+            count *= kinds.length;
+        }
+        for (int i = 0; i < count; i++) {
+            ModelTest t = new ModelTest();
+            int left = i;
+            for (int k = 0; k < length; k++) {
+                t.model.text.add(kinds[left % kinds.length]);
+                left /= kinds.length;
+            }
+            t.write(List.copyOf(t.model.text));
+            Check.due("reads of " + t.words(), t.x.reads(), t.model.reads());
+            Check.due("run of " + t.words(), t.x.run(), t.model.run());
+        }
     }
 
     private static int below(int n) {
