@@ -1,3 +1,6 @@
+import java.util.Arrays;
+import java.util.stream.Stream;
+
 /** What the tests share: texts written in words, and answers held against those that are due. */
 final class Check {
     static final int MIN = Integer.MIN_VALUE;
@@ -10,6 +13,7 @@ final class Check {
 
     private static int asked = 0;
     private static int wrong = 0;
+    private static String sentence = "";
 
     private Check() {
     }
@@ -18,8 +22,13 @@ final class Check {
         asked++;
         if (!got.equals(want)) {
             wrong++;
-            System.out.println(what + " answered " + got + ", due is " + want);
+            System.out.println(sentence + what + " answered " + got + ", due is " + want);
         }
+    }
+
+    /** The document's words that the answers from now on are due to. */
+    static void sentence(String words) {
+        sentence = "\"" + words + "\": ";
     }
 
     static void end() {
@@ -47,10 +56,13 @@ final class Check {
     }
 
     static void write(ArrayWords x, String text) {
+        int[] tokens = Stream.of(text.split(" ")).filter(word -> !word.isEmpty()).mapToInt(Check::token).toArray();
+        int[] padded = Arrays.copyOf(tokens, tokens.length + 3);
+        Arrays.fill(padded, tokens.length, padded.length, -1);
         x.clear();
-        for (String word : text.split(" ")) {
-            if (!word.isEmpty()) {
-                x.tokens(token(word), -1, -1, -1);
+        for (int p = 0; p < tokens.length; p += 4) {
+            if (x.tokens(padded[p], padded[p + 1], padded[p + 2], padded[p + 3]) < 0) {
+                throw new IllegalStateException("tokens are refused: " + text);
             }
         }
     }
@@ -63,20 +75,26 @@ final class Check {
     /** The result: its shape in brackets, then its ravel. */
     static String result(ArrayWords x) {
         StringBuilder s = new StringBuilder("[");
-        for (int i = 0; i < x.rank(); i++) {
+        int rank = x.rank();
+        int size = x.size();
+        for (int i = 0; i < rank; i++) {
             s.append(i == 0 ? "" : " ").append(x.length(i));
         }
         s.append("]");
-        for (int i = 0; i < x.size(); i++) {
+        for (int i = 0; i < size; i++) {
             s.append(" ").append(x.at(i));
         }
         return s.toString();
     }
 
+    /** The rank of a result that is written as above. */
+    static int rankOf(String array) {
+        String shape = array.substring(1, array.indexOf(']'));
+        return shape.isEmpty() ? 0 : shape.split(" ").length;
+    }
+
     static void gives(ArrayWords x, String text, String want) {
-        String shape = want.substring(1, want.indexOf(']'));
-        int rank = shape.isEmpty() ? 0 : shape.split(" ").length;
-        due("run of " + text, run(x, text), rank);
+        due("run of " + text, run(x, text), rankOf(want));
         due(text, result(x), want);
     }
 
@@ -100,7 +118,8 @@ final class Check {
     static ArrayWords used() {
         ArrayWords x = new ArrayWords();
         run(x, "a becomes b becomes c becomes d becomes e becomes f becomes - 6 6 shape 7");
-        run(x, "a + ( b + ( c + ( d + ( e + ( f + a ) + b ) + c ) + d ) + e ) + f");
+        run(x, "a + ( b + ( c + ( d + ( e + f ) + a ) + b ) + c ) + d");
+        run(x, "( ".repeat(14) + "a" + " )".repeat(14));
         for (int n = 0; n < 6; n++) {
             x.forget(n);
         }
