@@ -4,18 +4,44 @@ import java.util.function.Supplier;
 import java.util.function.ToIntFunction;
 import java.util.regex.Matcher;
 import java.util.regex.Pattern;
+import java.util.stream.Stream;
 
 /**
  * What the tests of the document's bounds share: texts with any arrays in them, and refusals that change nothing.
  *
  * A text may have arrays in braces, written as results are: "{[] 37} take {[2] 1 2}". Names that it does not use itself
- * are given these arrays first. In arrays 0..35 stands for the numbers from 0 to 35, 7x36 for 36 times 7, MIN and MAX
- * for the least and the greatest int.
+ * are given these arrays first. Several in one pair of braces, "{[0] | [0 6]}", are taken one after another. In arrays
+ * 0..35 stands for the numbers from 0 to 35, 7x36 for 36 times 7, MIN and MAX for the least and the greatest int.
  */
 final class Bounds {
+    /** Arrays of each rank, with no number, one, some, and as many as can be. */
+    static final String ARRAYS = "[] 4 | [0] | [1] 4 | [36] 1..36 | [0 0] | [0 6] | [6 0] | [1 1] 4 | [2 3] 1..6"
+            + " | [6 6] 1..36";
+    static final String RANK_2 = "[0 0] | [0 1] | [1 0] | [1 1] 0 | [1 1] 99 | [1 2] 1 1 | [6 6] 0x36";
+
     private static final Pattern IN_BRACES = Pattern.compile("\\{([^}]*)\\}");
+    private static final Pattern SEVERAL = Pattern.compile("\\{([^}]* \\| [^}]*)\\}");
 
     private Bounds() {
+    }
+
+    static String[] each(String list) {
+        return list.split(" \\| ");
+    }
+
+    /** The text with each choice of one array per pair of braces. */
+    static List<String> eachText(String texts) {
+        List<String> chosen = List.of(texts);
+        for (Matcher several = SEVERAL.matcher(texts); several.find();) {
+            List<String> more = new ArrayList<>();
+            for (String text : chosen) {
+                for (String array : each(several.group(1))) {
+                    more.add(SEVERAL.matcher(text).replaceFirst("{" + array + "}"));
+                }
+            }
+            chosen = more;
+        }
+        return chosen;
     }
 
     /** The array with its short forms written out. */
@@ -34,7 +60,13 @@ final class Bounds {
     }
 
     private static int[] numbersOf(String words) {
-        return Pattern.compile(" ").splitAsStream(words).filter(w -> !w.isEmpty()).mapToInt(Integer::parseInt).toArray();
+        return Stream.of(words.split(" ")).filter(word -> !word.isEmpty()).mapToInt(Integer::parseInt).toArray();
+    }
+
+    /** How many numbers the array has. */
+    static int sizeOf(String array) {
+        String whole = array(array);
+        return numbersOf(whole.substring(whole.indexOf(']') + 1)).length;
     }
 
     /** The row of the count numbers from first on, as X back leaves it. */
@@ -116,7 +148,7 @@ final class Bounds {
         return "result " + Check.result(x) + names(x) + "; text" + text(x);
     }
 
-    /** The call must answer the code, also when it is made again, and leave all as on an object on which it isn't made. */
+    /** The call must answer the code, also when it is made again, and leave all as where it is not made. */
     static void refused(String what, Supplier<ArrayWords> make, ToIntFunction<ArrayWords> call, int code) {
         ArrayWords x = make.get();
         Check.due(what, call.applyAsInt(x), code);
@@ -124,9 +156,11 @@ final class Bounds {
         Check.due("what is there after " + what, state(x), state(make.get()));
     }
 
-    static void refuses(String text, int code) {
-        refused("run of " + text, () -> ready(new ArrayWords(), text), ArrayWords::run, code);
-        refused("run of " + text + " after others", () -> ready(Check.used(), text), ArrayWords::run, code);
+    static void refuses(String texts, int code) {
+        for (String text : eachText(texts)) {
+            refused("run of " + text, () -> ready(new ArrayWords(), text), ArrayWords::run, code);
+            refused("run of " + text + " after others", () -> ready(Check.used(), text), ArrayWords::run, code);
+        }
     }
 
     private static void gives(ArrayWords x, ArrayWords alike, String text, String want) {
@@ -139,8 +173,10 @@ final class Bounds {
         Check.due("the text after " + text, text(x), text(alike));
     }
 
-    static void gives(String text, String want) {
-        gives(ready(new ArrayWords(), text), ready(new ArrayWords(), text), text, want);
-        gives(ready(Check.used(), text), ready(Check.used(), text), text, want);
+    static void gives(String texts, String want) {
+        for (String text : eachText(texts)) {
+            gives(ready(new ArrayWords(), text), ready(new ArrayWords(), text), text, want);
+            gives(ready(Check.used(), text), ready(Check.used(), text), text, want);
+        }
     }
 }

@@ -18,11 +18,11 @@ public final class CallBoundsTest {
 
     // The least and the greatest arrays of each rank, their shapes, and their numbers of numbers.
     private static final String[] ARRAYS = {
-        "[] 5", "[0]", "[1] 5", "[2] 5 6", "[35] 1..35", "[36] 1..36", "[0 0]", "[0 1]", "[0 6]", "[1 0]", "[6 0]", "[1 1] 5",
-        "[1 6] 1..6", "[6 1] 1..6", "[2 3] 1..6", "[5 6] 1..30", "[6 5] 1..30", "[6 6] 1..36"};
+        "[] 5", "[0]", "[1] 5", "[2] 5 6", "[35] 1..35", "[36] 1..36", "[0 0]", "[0 1]", "[0 6]", "[1 0]", "[6 0]",
+        "[1 1] 5", "[1 6] 1..6", "[6 1] 1..6", "[2 3] 1..6", "[5 6] 1..30", "[6 5] 1..30", "[6 6] 1..36"};
     private static final int[][] SHAPES = {
-        {}, {0}, {1}, {2}, {35}, {36}, {0, 0}, {0, 1}, {0, 6}, {1, 0}, {6, 0}, {1, 1},
-        {1, 6}, {6, 1}, {2, 3}, {5, 6}, {6, 5}, {6, 6}};
+        {}, {0}, {1}, {2}, {35}, {36}, {0, 0}, {0, 1}, {0, 6}, {1, 0}, {6, 0},
+        {1, 1}, {1, 6}, {6, 1}, {2, 3}, {5, 6}, {6, 5}, {6, 6}};
     private static final int[] SIZES = {1, 0, 1, 2, 35, 36, 0, 0, 0, 0, 0, 1, 6, 6, 6, 30, 30, 36};
 
     public static void main(String[] args) {
@@ -117,7 +117,8 @@ public final class CallBoundsTest {
     private static void refusedCalls() {
         Check.sentence("A refused call answers the code named and changes nothing.");
         List<Supplier<ArrayWords>> states = List.of(
-                ArrayWords::new, () -> withTokens(30), () -> named(2), () -> holding("[6 6] 1..36"), () -> holding("[0 6]"));
+                ArrayWords::new, () -> withTokens(30), () -> named(2), () -> holding("[6 6] 1..36"),
+                () -> holding("[0 6]"));
         for (Supplier<ArrayWords> state : states) {
             Bounds.refused("tokens of no token", state, x -> x.tokens(1, 2, 3, 53), BAD_ARG);
             Bounds.refused("length -1", state, x -> x.length(-1), NONE);
@@ -181,8 +182,9 @@ public final class CallBoundsTest {
                 Check.due("the text then", x.untoken(), t);
             }
             for (int t : NO_TOKENS) {
-                Bounds.refused(t + " at place " + at, () -> withTokens(3), x -> tokensAt(x, at, t, -1), BAD_ARG);
-                Bounds.refused(t + " at place " + at + " of 4", () -> withTokens(3), x -> tokensAt(x, at, t, 7), BAD_ARG);
+                String what = t + " at place " + at;
+                Bounds.refused(what, () -> withTokens(3), x -> tokensAt(x, at, t, -1), BAD_ARG);
+                Bounds.refused(what + " of 4", () -> withTokens(3), x -> tokensAt(x, at, t, 7), BAD_ARG);
             }
         }
     }
@@ -224,13 +226,16 @@ public final class CallBoundsTest {
     }
 
     private static void badTokenFirst() {
-        Check.sentence("Tested in this order: one of them is neither -1 nor a token answers BAD_ARG; there would be more");
+        Check.sentence("Tested in this order: one of them is neither -1 nor a token answers BAD_ARG; there would be "
+                + "more than 30 tokens answers FULL.");
         for (int t : NO_TOKENS) {
             for (int place = 0; place < 4; place++) {
                 int at = place;
-                Bounds.refused(t + " and three tokens behind 30", () -> withTokens(30), x -> tokensAt(x, at, t, 5), BAD_ARG);
-                Bounds.refused(t + " alone behind 30", () -> withTokens(30), x -> tokensAt(x, at, t, -1), BAD_ARG);
-                Bounds.refused(t + " and three tokens behind 27", () -> withTokens(27), x -> tokensAt(x, at, t, 5), BAD_ARG);
+                Bounds.refused(t + " behind 30", () -> withTokens(30), x -> tokensAt(x, at, t, -1), BAD_ARG);
+                for (int had : new int[] {26, 27, 30}) {
+                    String what = t + " among four behind " + had;
+                    Bounds.refused(what, () -> withTokens(had), x -> tokensAt(x, at, t, 5), BAD_ARG);
+                }
             }
         }
     }

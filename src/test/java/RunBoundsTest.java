@@ -70,8 +70,8 @@ public final class RunBoundsTest {
     }
 
     private static void greatestArrays() {
-        Check.sentence("An ARRAY has RANK 0 (one number), 1 (a VECTOR of 0 to 36 numbers) or 2 (a MATRIX of 0 to 6 rows with 0 "
-                + "to 6 numbers each)");
+        Check.sentence("An ARRAY has RANK 0 (one number), 1 (a VECTOR of 0 to 36 numbers) or 2 (a MATRIX of 0 to 6 "
+                + "rows with 0 to 6 numbers each)");
         everywhere("[] -5");
         for (int n = 0; n <= 36; n++) {
             everywhere("[" + n + "]" + upTo(n));
@@ -99,8 +99,8 @@ public final class RunBoundsTest {
     }
 
     private static void tooGreatArrays() {
-        Check.sentence("An ARRAY has RANK 0 (one number), 1 (a VECTOR of 0 to 36 numbers) or 2 (a MATRIX of 0 to 6 rows with 0 "
-                + "to 6 numbers each)");
+        Check.sentence("An ARRAY has RANK 0 (one number), 1 (a VECTOR of 0 to 36 numbers) or 2 (a MATRIX of 0 to 6 "
+                + "rows with 0 to 6 numbers each)");
         Bounds.refuses("{[] 37} shape 1", DOMAIN);
         Bounds.refuses("7 0 shape 1", DOMAIN);
         Bounds.refuses("0 7 shape 1", DOMAIN);
@@ -134,7 +134,8 @@ public final class RunBoundsTest {
     }
 
     private static void shapes() {
-        Check.sentence("Its SHAPE is the vector of its lengths: none for rank 0, its length, or its numbers of rows and columns.");
+        Check.sentence("Its SHAPE is the vector of its lengths: none for rank 0, its length, or its numbers of rows "
+                + "and columns.");
         Bounds.gives("shape {[] 36}", "[0]");
         Bounds.gives("shape {[0]}", "[1] 0");
         Bounds.gives("shape {[36] 1..36}", "[1] 36");
@@ -179,8 +180,8 @@ public final class RunBoundsTest {
     }
 
     private static void tokenTable() {
-        Check.sentence("0 to 9, numbers; 10 to 15, names; 20 to 27, the SCALAR FUNCTIONS +, -, *, max, min, =, <, rest; 30 to 38, "
-                + "the MIXED FUNCTIONS shape, count, turn, back, take, drop, join, pick, rise");
+        Check.sentence("0 to 9, numbers; 10 to 15, names; 20 to 27, the SCALAR FUNCTIONS +, -, *, max, min, =, <, "
+                + "rest; 30 to 38, the MIXED FUNCTIONS shape, count, turn, back, take, drop, join, pick, rise");
         for (int n = 0; n <= 9; n++) {
             tokensGive("[] " + n, n);
         }
@@ -284,7 +285,8 @@ public final class RunBoundsTest {
     }
 
     private static void expressions() {
-        Check.sentence("EXPRESSION = OPERAND | FUNCTION EXPRESSION | OPERAND FUNCTION EXPRESSION | name becomes EXPRESSION");
+        Check.sentence("EXPRESSION = OPERAND | FUNCTION EXPRESSION | OPERAND FUNCTION EXPRESSION | name becomes "
+                + "EXPRESSION");
         String[] operands = {"1", "1 2", "a", "( 1 )"};
         String[] functions = {"+", "rise", "+ /", "+ \\", "outer +", "+ . *"};
         for (String operand : operands) {
@@ -346,7 +348,8 @@ public final class RunBoundsTest {
             }
         }
         for (String text : new String[] {"becomes", "becomes 1", "a becomes", "a becomes becomes 1", "( a ) becomes 1",
-            "( a becomes ) 1", "a becomes +", "a becomes ( )", "1 2 becomes 3", "a + becomes 1", "a becomes 1 becomes 2"}) {
+            "( a becomes ) 1", "a becomes +", "a becomes ( )", "1 2 becomes 3", "a + becomes 1",
+            "a becomes 1 becomes 2"}) {
             noStatement(text);
         }
     }
@@ -464,8 +467,8 @@ public final class RunBoundsTest {
     private static void syntax() {
         Check.sentence("SYNTAX if it is no statement");
         // A run of what stands on the right of the wrong place would give a name or end with another code.
-        for (String text : new String[] {"+", "( f becomes 1", "/ f becomes 1", "1 2 ) + 3", "f becomes 1 +", "a 1 turn 1",
-            "1 f becomes 2", "( ) drop 1", "1 / {[2] 1 2}", "{[2] 1 2} {[2] 1 2}"}) {
+        for (String text : new String[] {"+", "( f becomes 1", "/ f becomes 1", "1 2 ) + 3", "f becomes 1 +",
+            "a 1 turn 1", "1 f becomes 2", "( ) drop 1", "1 / {[2] 1 2}", "{[2] 1 2} {[2] 1 2}"}) {
             Bounds.refuses(text, SYNTAX);
         }
     }
@@ -505,8 +508,8 @@ public final class RunBoundsTest {
     }
 
     private static void runChanges() {
-        Check.sentence("Otherwise the result becomes the value of the statement, names those that they became; answers the rank of "
-                + "the result.");
+        Check.sentence("Otherwise the result becomes the value of the statement, names those that they became; "
+                + "answers the rank of the result.");
         ArrayWords x = new ArrayWords();
         Bounds.hold(x, "[6 6] 1..36");
         for (int n = 0; n < 6; n++) {
@@ -526,7 +529,8 @@ public final class RunBoundsTest {
     }
 
     private static void turnKeepsLengths() {
-        Check.sentence("turn: of a matrix with r rows and c columns the result has c rows and r columns, also if r or c is 0.");
+        Check.sentence("turn: of a matrix with r rows and c columns the result has c rows and r columns, also if r or "
+                + "c is 0.");
         for (int r = 0; r <= 6; r++) {
             for (int c = 0; c <= 6; c++) {
                 StringBuilder turned = new StringBuilder("[" + c + " " + r + "]");
@@ -541,8 +545,8 @@ public final class RunBoundsTest {
     }
 
     private static void emptyKeepsLengths() {
-        Check.sentence("A matrix keeps its number of rows and its number of columns when one of them is 0, so do take, drop, join "
-                + "and pick of it.");
+        Check.sentence("A matrix keeps its number of rows and its number of columns when one of them is 0, so do "
+                + "take, drop, join and pick of it.");
         for (int n = 0; n <= 6; n++) {
             String noRow = "[0 " + n + "]";
             String noColumn = "[" + n + " 0]";
@@ -572,10 +576,12 @@ public final class RunBoundsTest {
     }
 
     private static void innerErrorsFirst() {
-        Check.sentence("run: an error in the expression, or in the operand, comes before those of the function, VALENCE among them.");
+        Check.sentence("run: an error in the expression, or in the operand, comes before those of the function, "
+                + "VALENCE among them.");
         String[] functions = {"+ /", "+ \\", "turn", "rise"};
         String[] alone = {"outer +", "+ . *", "drop", "pick"};
-        String[] wrong = {"f", "( 1 turn 1 )", "( rise 1 )", "( 1 2 + 1 2 3 )", "( 9 9 shape 1 )", "( 1 join {[36] 1..36} )"};
+        String[] wrong = {"f", "( 1 turn 1 )", "( rise 1 )", "( 1 2 + 1 2 3 )", "( 9 9 shape 1 )",
+            "( 1 join {[36] 1..36} )"};
         int[] codes = {VALUE, VALENCE, RANK, LENGTH, DOMAIN, LIMIT};
         for (int k = 0; k < wrong.length; k++) {
             for (String function : functions) {
