@@ -85,12 +85,12 @@ final class Bounds {
         int[] lengths = numbersOf(array.substring(1, end));
         int[] numbers = numbersOf(array.substring(end + 1));
         if (lengths.length == 0) {
-            Check.run(x, "0");
+            Check.run(x, "9");
         } else if (lengths.length == 2) {
-            Check.run(x, lengths[0] + " " + lengths[1] + " shape 0");
+            Check.run(x, lengths[0] + " " + lengths[1] + " shape 9");
         } else {
             // A text has no number above 9.
-            Check.run(x, "( " + lengths[0] % 9 + " + 9 * " + lengths[0] / 9 + " ) shape 0");
+            Check.run(x, "( " + lengths[0] % 9 + " + 9 * " + lengths[0] / 9 + " ) shape 9");
         }
         if (x.size() != numbers.length) {
             throw new IllegalStateException("not an array: " + shortened);
@@ -100,7 +100,7 @@ final class Bounds {
         }
     }
 
-    /** Makes x ready to run the text: its arrays in names, other values in the result and in a name beside them. */
+    /** Makes x ready to run the text: its arrays in names, other values in the result and in names beside them. */
     static ArrayWords ready(ArrayWords x, String text) {
         List<String> used = List.of(IN_BRACES.matcher(text).replaceAll("").split(" "));
         List<Integer> free = new ArrayList<>();
@@ -119,6 +119,8 @@ final class Bounds {
         if (!free.isEmpty()) {
             hold(x, "[2 1] -61 62");
             x.keep(free.get(0));
+            Check.run(x, "6 6 shape - 1 + count 9 * 4");
+            x.keep(free.get(free.size() - 1));
         }
         hold(x, "[3] 71 -72 73");
         Check.write(x, plain);
@@ -143,9 +145,11 @@ final class Bounds {
         return s.toString();
     }
 
-    /** All that an object can be asked for. */
+    /** All that an object can be asked for, and what it makes of a further text. */
     static String state(ArrayWords x) {
-        return "result " + Check.result(x) + names(x) + "; text" + text(x);
+        String state = "result " + Check.result(x) + names(x) + "; text" + text(x);
+        Check.run(x, "8 - ( 3 - 1 2 )");
+        return state + "; 8 - ( 3 - 1 2 ) gives " + Check.result(x);
     }
 
     /** The call must answer the code, also when it is made again, and leave all as where it is not made. */
@@ -177,6 +181,11 @@ final class Bounds {
         for (String text : eachText(texts)) {
             gives(ready(new ArrayWords(), text), ready(new ArrayWords(), text), text, want);
             gives(ready(Check.used(), text), ready(Check.used(), text), text, want);
+            // As an operand too, while the array right of it waits.
+            String operand = "( " + text + " ) * 1";
+            if (IN_BRACES.matcher(operand).replaceAll("a").split(" +").length <= 30) {
+                gives(ready(new ArrayWords(), operand), ready(new ArrayWords(), operand), operand, want);
+            }
         }
     }
 }

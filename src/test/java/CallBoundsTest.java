@@ -127,7 +127,7 @@ public final class CallBoundsTest {
             Bounds.refused("keep 6", state, x -> x.keep(6), BAD_ARG);
             Bounds.refused("show -1", state, x -> x.show(-1), BAD_ARG);
             Bounds.refused("show 6", state, x -> x.show(6), BAD_ARG);
-            Bounds.refused("show of no value", state, x -> x.show(5), VALUE);
+            Bounds.refused("show of no value", state, x -> x.show(4), VALUE);
             Bounds.refused("forget -1", state, x -> x.forget(-1), BAD_ARG);
             Bounds.refused("forget 6", state, x -> x.forget(6), BAD_ARG);
             Bounds.refused("put at -1", state, x -> x.put(-1, 5), NONE);
@@ -163,8 +163,8 @@ public final class CallBoundsTest {
         Check.due("the result", Check.result(new ArrayWords()), "[] 0");
         Check.due("the result's length 0", new ArrayWords().length(0), NONE);
         Check.due("the result behind its number", new ArrayWords().at(1), 0);
-        Check.due("all after another object's use", Bounds.state(new ArrayWords()),
-                "result [] 0; name 0 none; name 1 none; name 2 none; name 3 none; name 4 none; name 5 none; text");
+        Check.due("the names after another object's use", Bounds.names(new ArrayWords()),
+                "; name 0 none; name 1 none; name 2 none; name 3 none; name 4 none; name 5 none");
     }
 
     private static int tokensAt(ArrayWords x, int place, int token, int others) {

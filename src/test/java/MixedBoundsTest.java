@@ -455,6 +455,7 @@ public final class MixedBoundsTest {
         Bounds.gives("rise {[36] 7x36}", "[36] 0..35");
         Bounds.gives("rise {[36] 1..36}", "[36] 0..35");
         Bounds.gives("rise {[36] 36..1}", "[36] 35..0");
+        Bounds.gives("rise {[36] -75..-40}", "[36] 0..35");
         Bounds.gives("rise {[5] MAX 0 MIN -1 1}", "[5] 2 3 1 4 0");
         Bounds.gives("rise {[6] MAX MIN MAX MIN 0 0}", "[6] 1 3 4 5 0 2");
     }

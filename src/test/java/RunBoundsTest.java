@@ -407,6 +407,8 @@ public final class RunBoundsTest {
         Check.sentence("name becomes E gives the name, and has itself, the value of E");
         for (String array : new String[] {"[] MIN", "[0]", "[36] 1..36", "[0 6]", "[6 0]", "[6 6] 1..36"}) {
             Bounds.gives("f becomes {" + array + "}", array);
+            Bounds.gives("f becomes - - {" + array + "}", array);
+            Bounds.gives("f becomes e becomes - d becomes c becomes - {" + array + "}", array);
             ArrayWords x = Bounds.ready(new ArrayWords(), "f becomes {" + array + "}");
             x.run();
             Bounds.hold(x, "[] 3");
