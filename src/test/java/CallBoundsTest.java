@@ -2,6 +2,7 @@ import java.util.ArrayList;
 import java.util.List;
 import java.util.function.Supplier;
 import java.util.function.ToIntBiFunction;
+import java.util.function.ToIntFunction;
 
 /** The bounds that the document names for the calls: promises 1 to 5 and 7 to 15, sentence by sentence. */
 public final class CallBoundsTest {
@@ -28,6 +29,8 @@ public final class CallBoundsTest {
     public static void main(String[] args) {
         neverThrows();
         refusedCalls();
+        codes();
+        questions();
         lastCall();
         newObject();
         tokenRanges();
@@ -136,6 +139,54 @@ public final class CallBoundsTest {
         Bounds.refused("tokens at 30", () -> withTokens(30), x -> x.tokens(-1, 1, -1, -1), FULL);
         Bounds.refused("untoken of none", () -> withTokens(0), ArrayWords::untoken, NONE);
         Bounds.refused("run of none", () -> withTokens(0), ArrayWords::run, ArrayWords.SYNTAX);
+    }
+
+    private static void codes() {
+        Check.sentence("`BAD_ARG = -1`: An argument is out of its range.");
+        Check.due("tokens of 53", new ArrayWords().tokens(53, -1, -1, -1), -1);
+        Check.due("keep 6", new ArrayWords().keep(6), -1);
+        Check.due("show 6", new ArrayWords().show(6), -1);
+        Check.due("forget 6", new ArrayWords().forget(6), -1);
+        Check.sentence("`FULL = -2`: The text has 30 tokens.");
+        Check.due("token 31", withTokens(30).tokens(1, -1, -1, -1), -2);
+        Check.sentence("`NONE = -3`: There is no such thing.");
+        Check.due("untoken of none", new ArrayWords().untoken(), -3);
+        Check.due("length of rank 0", new ArrayWords().length(0), -3);
+        Check.due("put behind the result", new ArrayWords().put(1, 5), -3);
+        Check.sentence("`SYNTAX = -10`, `VALUE = -11`, `VALENCE = -12`, `RANK = -13`, `LENGTH = -14`, "
+                + "`DOMAIN = -15`, `LIMIT = -16`: Why a run ended.");
+        String[] texts = {"+", "a", "drop 1", "rise 1", "1 2 + 1 2 3", "count - 1", "( count 7 ) outer + 1 2"};
+        for (int k = 0; k < texts.length; k++) {
+            Check.due("run of " + texts[k], Check.run(new ArrayWords(), texts[k]), -10 - k);
+        }
+        Check.due("show of no value", new ArrayWords().show(0), -11);
+    }
+
+    private static void questions() {
+        Check.sentence("Nothing is promised beyond the answers and state changes described above");
+        for (int k = 0; k < ARRAYS.length; k++) {
+            String array = ARRAYS[k];
+            Supplier<ArrayWords> state = () -> holding(array);
+            int digest = holding(array).digest();
+            unchanged("rank of " + array, state, ArrayWords::rank, SHAPES[k].length);
+            unchanged("size of " + array, state, ArrayWords::size, SIZES[k]);
+            unchanged("digest of " + array, state, ArrayWords::digest, digest);
+            unchanged("reads beside " + array, state, x -> x.reads() ? 1 : 0, 1);
+            unchanged("tokens of nothing beside " + array, state, x -> x.tokens(-1, -1, -1, -1), 3);
+            for (int i = 0; i < SHAPES[k].length; i++) {
+                int place = i;
+                unchanged("length " + i + " of " + array, state, x -> x.length(place), SHAPES[k][i]);
+            }
+            for (int i = 0; i < SIZES[k]; i++) {
+                int place = i;
+                unchanged("at " + i + " of " + array, state, x -> x.at(place), holding(array).at(i));
+            }
+        }
+    }
+
+    /** A call that only asks leaves all as it is, just as a refused one does. */
+    private static void unchanged(String what, Supplier<ArrayWords> make, ToIntFunction<ArrayWords> call, int want) {
+        Bounds.refused(what, make, call, want);
     }
 
     private static void lastCall() {

@@ -27,6 +27,7 @@ public final class FaceTest {
         constructors();
         methods();
         fields();
+        Check.due("a name for each constant", constantNames(), CONSTANTS.size());
         source(Files.readString(Path.of("src/main/java/ArrayWords.java")));
         Check.end();
     }
@@ -44,6 +45,7 @@ public final class FaceTest {
         for (Method m : ArrayWords.class.getDeclaredMethods()) {
             if (!Modifier.isPrivate(m.getModifiers())) {
                 String types = java.util.Arrays.toString(m.getParameterTypes());
+                Check.due(m.getName() + " is asked of an object", Modifier.isStatic(m.getModifiers()), false);
                 open.add(m.getReturnType() + " " + m.getName() + "(" + types.substring(1, types.length() - 1) + ")");
                 openNames.add(m.getName());
             }
@@ -77,6 +79,21 @@ public final class FaceTest {
         }
         Check.due("public constants", open, new TreeSet<>(CONSTANTS));
         Check.due("at most forty fields", own <= 40, true);
+    }
+
+    /** Compiles only if each of them is a constant of the language, and a different one. */
+    private static int constantNames() {
+        int names = 0;
+        for (int code = -20; code <= 0; code++) {
+            switch (code) {
+                case ArrayWords.BAD_ARG, ArrayWords.FULL, ArrayWords.NONE, ArrayWords.SYNTAX, ArrayWords.VALUE,
+                        ArrayWords.VALENCE, ArrayWords.RANK, ArrayWords.LENGTH, ArrayWords.DOMAIN, ArrayWords.LIMIT ->
+                    names++;
+                default -> {
+                }
+            }
+        }
+        return names;
     }
 
     private static void source(String whole) {

@@ -2,8 +2,8 @@ import java.util.ArrayList;
 import java.util.List;
 
 /**
- * The document's grammar and tables once more, as near to their words as the Java library allows: spans of the text
- * tried against each rule, recursion, arrays with a shape of any rank. It shares no code with the program.
+ * The document's calls, grammar and tables once more, as near to their words as the Java library allows: spans of the
+ * text tried against each rule, recursion, arrays with a shape of any rank. It shares no code with the program.
  */
 final class Model {
     /** An error of the language; its code is what run answers. */
@@ -33,8 +33,9 @@ final class Model {
     }
 
     final List<Integer> text = new ArrayList<>();
-    final Value[] names = new Value[6];
-    Value result = single(0);
+
+    private final Value[] names = new Value[6];
+    private Value result = single(0);
 
     private Value[] drafts = new Value[6];
     private final int[][] known = new int[32][32];
@@ -53,6 +54,101 @@ final class Model {
             n *= length;
         }
         return n;
+    }
+
+    private static boolean isToken(int t) {
+        return t >= 0 && t <= 15 || t >= 20 && t <= 27 || t >= 30 && t <= 38 || t >= 40 && t <= 43
+                || t >= 50 && t <= 52;
+    }
+
+    int tokens(int a, int b, int c, int d) {
+        List<Integer> more = new ArrayList<>(List.of(a, b, c, d));
+        more.removeIf(t -> t == -1);
+        if (!more.stream().allMatch(Model::isToken)) {
+            return -1;
+        }
+        if (text.size() + more.size() > 30) {
+            return -2;
+        }
+        text.addAll(more);
+        return text.size();
+    }
+
+    int untoken() {
+        return text.isEmpty() ? -3 : text.remove(text.size() - 1);
+    }
+
+    void clear() {
+        text.clear();
+    }
+
+    int rank() {
+        return result.rank();
+    }
+
+    private static int numberOr(int otherwise, List<Integer> list, int i) {
+        return i >= 0 && i < list.size() ? list.get(i) : otherwise;
+    }
+
+    int length(int i) {
+        return numberOr(-3, result.shape, i);
+    }
+
+    int size() {
+        return result.ravel.size();
+    }
+
+    int at(int i) {
+        return numberOr(0, result.ravel, i);
+    }
+
+    int digest() {
+        // No sum of 36 such products leaves a long, so it wraps once, at the end.
+        long sum = 0;
+        for (int i = 0; i < result.ravel.size(); i++) {
+            sum += (i + 1L) * result.ravel.get(i);
+        }
+        return (int) sum;
+    }
+
+    private static boolean isName(int n) {
+        return n >= 0 && n <= 5;
+    }
+
+    int keep(int n) {
+        if (!isName(n)) {
+            return -1;
+        }
+        names[n] = result;
+        return 0;
+    }
+
+    int show(int n) {
+        if (!isName(n) || names[n] == null) {
+            return isName(n) ? -11 : -1;
+        }
+        result = names[n];
+        return result.rank();
+    }
+
+    int forget(int n) {
+        if (!isName(n)) {
+            return -1;
+        }
+        int had = names[n] == null ? 0 : 1;
+        names[n] = null;
+        return had;
+    }
+
+    int put(int i, int x) {
+        if (i < 0 || i >= size()) {
+            return -3;
+        }
+        List<Integer> changed = new ArrayList<>(result.ravel);
+        int before = changed.set(i, x);
+        // A new array: names may have the old one.
+        result = new Value(result.shape, changed);
+        return before;
     }
 
     private boolean in(int p, int least, int greatest) {

@@ -17,6 +17,7 @@ public final class RunBoundsTest {
         names();
         tokenTable();
         whetherStatement();
+        wholeText();
         emptyText();
         operands();
         brackets();
@@ -26,12 +27,14 @@ public final class RunBoundsTest {
         longestTexts();
         numbersTogether();
         oneNumberOrSeveral();
+        noFunctionFirst();
         rightToLeft();
         becomesGives();
         firstErrors();
         valenceFirst();
         nameWithoutValue();
         syntax();
+        runsTheText();
         errorsChangeNothing();
         runChanges();
         turnKeepsLengths();
@@ -181,7 +184,8 @@ public final class RunBoundsTest {
 
     private static void tokenTable() {
         Check.sentence("0 to 9, numbers; 10 to 15, names; 20 to 27, the SCALAR FUNCTIONS +, -, *, max, min, =, <, "
-                + "rest; 30 to 38, the MIXED FUNCTIONS shape, count, turn, back, take, drop, join, pick, rise");
+                + "rest; 30 to 38, the MIXED FUNCTIONS shape, count, turn, back, take, drop, join, pick, rise; "
+                + "40 \"/\"; 41 \"\\\"; 42 \"outer\"; 43 \".\"; 50 \"(\"; 51 \")\"; 52 \"becomes\".");
         for (int n = 0; n <= 9; n++) {
             tokensGive("[] " + n, n);
         }
@@ -235,6 +239,25 @@ public final class RunBoundsTest {
             Check.due("reads of " + text + " again", x.reads(), false);
             Check.due("what is there after reads of " + text, Bounds.state(x),
                     Bounds.state(Bounds.ready(new ArrayWords(), text)));
+        }
+    }
+
+    private static void wholeText() {
+        Check.sentence("A STATEMENT is a text that is an EXPRESSION");
+        String[] expressions = {"a", "( 1 2 )", "a - b", "b becomes a", "a outer + ( 2 )", "( 1 ) + . * a", "turn a",
+            "+ / ( 1 2 )"};
+        for (String first : expressions) {
+            statement(first);
+            for (String second : expressions) {
+                // Side by side they are one only where the second goes on with a function.
+                expect(first + " " + second, second.startsWith("turn") || second.startsWith("+"));
+            }
+            for (String part : new String[] {"+", "turn", "outer +", "a becomes", "(", "outer", "."}) {
+                noStatement(first + " " + part);
+            }
+            for (String part : new String[] {"/", "\\", ".", "outer", "becomes", ")"}) {
+                noStatement(part + " " + first);
+            }
         }
     }
 
@@ -393,6 +416,33 @@ public final class RunBoundsTest {
         Bounds.gives("shape 7 7", "[1] 2");
     }
 
+    private static String resultOf(String text) {
+        ArrayWords x = new ArrayWords();
+        Check.due("run of " + text, Check.run(x, text), 0);
+        return Check.result(x);
+    }
+
+    private static void noFunctionFirst() {
+        Check.sentence("An expression is worked out from right to left");
+        Bounds.gives("2 * 3 + 4", "[] 14");
+        Bounds.gives("2 + 3 * 4", "[] 14");
+        Bounds.gives("9 - 5 - 3 - 1", "[] 6");
+        Bounds.gives("- 3 - 5", "[] 2");
+        Bounds.gives("1 2 + - 3 4", "[2] -2 -2");
+        Bounds.gives("+ / 2 * 3 4", "[] 14");
+        Bounds.gives("2 * + / 3 4", "[] 14");
+        Bounds.gives("shape 2 + 3 4 shape 5", "[2] 3 4");
+        for (int f = 20; f <= 27; f++) {
+            for (int g = 20; g <= 27; g++) {
+                String left = "7 " + Check.word(f) + " ";
+                String right = "3 " + Check.word(g) + " 2";
+                Check.due(left + right, resultOf(left + right), resultOf(left + "( " + right + " )"));
+                Check.due(left + Check.word(g) + " 2", resultOf(left + Check.word(g) + " 2"),
+                        resultOf(left + "( " + Check.word(g) + " 2 )"));
+            }
+        }
+    }
+
     private static void rightToLeft() {
         Check.sentence("of OPERAND FUNCTION EXPRESSION first the expression, then the operand, then the function");
         Bounds.gives("a + a becomes 3", "[] 6");
@@ -473,6 +523,31 @@ public final class RunBoundsTest {
             "a 1 turn 1", "1 f becomes 2", "( ) drop 1", "1 / {[2] 1 2}", "{[2] 1 2} {[2] 1 2}"}) {
             Bounds.refuses(text, SYNTAX);
         }
+    }
+
+    private static void runsTheText() {
+        Check.sentence("Runs the text");
+        ArrayWords x = new ArrayWords();
+        Check.run(x, "a becomes 1");
+        Check.write(x, "a becomes a + a");
+        for (int k = 1; k <= 31; k++) {
+            Check.due("run " + k + " of the same text", x.run(), 0);
+            Check.due("the result of run " + k, x.at(0), 1 << k);
+        }
+        // The text that is there now, whatever was written before.
+        Check.write(x, "2 3 + 4 5");
+        x.untoken();
+        Check.due("run after untoken", x.run(), 1);
+        Check.due("the result after untoken", Check.result(x), "[2] 6 7");
+        x.tokens(22, 5, -1, -1);
+        Check.due("run after more tokens", x.run(), 1);
+        Check.due("the result after more tokens", Check.result(x), "[2] 22 23");
+        Check.due("tokens that are refused", x.tokens(20, 1, 99, -1), ArrayWords.BAD_ARG);
+        Check.due("run after refused tokens", x.run(), 1);
+        Check.due("the result after refused tokens", Check.result(x), "[2] 22 23");
+        x.clear();
+        Check.due("run after clear", x.run(), SYNTAX);
+        Check.due("the result after clear", Check.result(x), "[2] 22 23");
     }
 
     private static ArrayWords withNames(String text) {

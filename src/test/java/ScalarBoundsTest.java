@@ -9,7 +9,7 @@ public final class ScalarBoundsTest {
 
     public static void main(String[] args) {
         rest();
-        comparisons();
+        onNumbers();
         scalarShapes();
         scalarAlone();
         foldOfRank0();
@@ -47,9 +47,13 @@ public final class ScalarBoundsTest {
         Bounds.gives("{[] MIN} rest " + ends, "[6] 0 1 MAX 0 2147483646 MAX");
     }
 
-    private static void comparisons() {
-        Check.sentence("the greater, the lesser, = and < (1 if it holds, else 0)");
+    private static void onNumbers() {
+        Check.sentence("scalar f: on numbers +, -, *, the greater, the lesser, = and < (1 if it holds, else 0)");
         String ends = "{[5] MIN -1 0 1 MAX}";
+        Bounds.gives("7 + {[4] 3 0 -3 -9}", "[4] 10 7 4 -2");
+        Bounds.gives("7 - {[4] 3 0 -3 -9}", "[4] 4 7 10 16");
+        Bounds.gives("7 * {[4] 3 0 -3 -9}", "[4] 21 0 -21 -63");
+        Bounds.gives("{[4] 3 0 -3 -9} - 7", "[4] -4 -7 -10 -16");
         Bounds.gives("0 max " + ends, "[5] 0 0 0 1 MAX");
         Bounds.gives("0 min " + ends, "[5] MIN -1 0 0 0");
         Bounds.gives("0 = " + ends, "[5] 0 0 1 0 0");
