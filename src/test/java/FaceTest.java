@@ -5,7 +5,9 @@ import java.lang.reflect.Method;
 import java.lang.reflect.Modifier;
 import java.nio.file.Files;
 import java.nio.file.Path;
+import java.util.Map;
 import java.util.Set;
+import java.util.TreeMap;
 import java.util.TreeSet;
 import java.util.regex.Matcher;
 import java.util.regex.Pattern;
@@ -110,6 +112,43 @@ public final class FaceTest {
                     line.matches("    private final (int|boolean)\\[\\] \\w+ = new (int|boolean)\\[[\\w* ]+\\];"), true);
         }
         callsInCalls(code);
+        depths(bodies(code));
+    }
+
+    /** The lines of each method, and of the constructor, by its name. */
+    private static Map<String, String> bodies(String code) {
+        Map<String, String> bodies = new TreeMap<>();
+        Matcher method = Pattern.compile("(?ms)^    (?:public|private)[\\w ]* (\\w+)\\([^)]*\\) \\{$(.*?)^    \\}$")
+                .matcher(code);
+        while (method.find()) {
+            Check.due("methods named " + method.group(1), bodies.put(method.group(1), method.group(2)) == null, true);
+            long lines = method.group(2).lines().count();
+            Check.due(method.group(1) + " is short: " + lines + " lines", lines <= 60, true);
+        }
+        int all = ArrayWords.class.getDeclaredMethods().length + ArrayWords.class.getDeclaredConstructors().length;
+        Check.due("methods found", bodies.size(), all);
+        return bodies;
+    }
+
+    /** No method comes back to itself, and calls go at most six deep. */
+    private static void depths(Map<String, String> bodies) {
+        Map<String, Integer> depths = new TreeMap<>();
+        // In each turn those get a depth whose calls all have one, so what is recursive never does.
+        for (int turn = 1; turn <= bodies.size(); turn++) {
+            for (Map.Entry<String, String> method : bodies.entrySet()) {
+                Set<String> called = new TreeSet<>();
+                Pattern.compile("(\\w+)\\(").matcher(method.getValue()).results().forEach(c -> called.add(c.group(1)));
+                called.retainAll(bodies.keySet());
+                if (depths.keySet().containsAll(called)) {
+                    int below = called.stream().mapToInt(depths::get).max().orElse(0);
+                    depths.putIfAbsent(method.getKey(), below + 1);
+                }
+            }
+        }
+        for (String method : bodies.keySet()) {
+            int depth = depths.getOrDefault(method, Check.MAX);
+            Check.due("calls of " + method + " go " + depth + " deep, six at most", depth <= 6, true);
+        }
     }
 
     /** No call stands inside the arguments of another call. */
